@@ -418,6 +418,14 @@ public final class ParcelChutesPromises {
         for (int[] row : want) {
             due("below(7, " + row[0] + ")", x.below(7, row[0]), row[1]);
         }
+        x.take(7, 5);
+        x.take(7, 5);
+        x.take(7, 3);
+        due("below(7, 6), the lighter ones taken out", x.below(7, 6), 0);
+        while (x.chute(7, 5) < 12) {
+            x.send(4, 1);
+        }
+        due("below(7, 800000) of a full one", x.below(7, 800000), 9);
         for (int chute : NOT_CHUTES) {
             dueThrow(x, "below(no chute, -1)", NO_CHUTE, () -> x.below(chute, -1));
         }
@@ -456,6 +464,8 @@ public final class ParcelChutesPromises {
         while (x.chute(7, 5) < 12) {
             x.send(2, 6);
         }
+        dueThrow(x, "take(7, 3) of a full one", NONE, () -> x.take(7, 3));
+        dueThrow(x, "take(7, 0) of a full one", NONE, () -> x.take(7, 0));
         due("take(7, 1) of a full one", x.take(7, 1), 5);
         due("chute(7, 5)", x.chute(7, 5), 11);
     }
@@ -595,6 +605,13 @@ public final class ParcelChutesPromises {
             y.send(7, 7);
         }
         due("alike(1, 1) of twelve", y.alike(1, 1), 12);
+        ParcelChutes z = withLenient(0, 7);
+        sendAll(z, 1, 1, 2, 2);
+        z.shut(0, true);
+        sendAll(z, 1, 3, 2, 2);
+        due("alike(0, 7), the first girths differ", z.alike(0, 7), 0);
+        z.take(7, 1);
+        due("alike(0, 7), the first weights differ", z.alike(0, 7), 0);
     }
 
     private static void dueGauges(ParcelChutes x, int lightest, int heaviest, int widest, int streak, int came) {
@@ -637,6 +654,11 @@ public final class ParcelChutesPromises {
         dueThrow(x, "send(-1, 5)", BAD, () -> x.send(-1, 5));
         x.send(1, 1);
         dueGauges(x, 1, 800000, 16000, 2, 9);
+        ParcelChutes y = new ParcelChutes();
+        sendAll(y, 7, 8, 6, 9);
+        dueGauges(y, 6, 7, 9, 1, 2);
+        sendAll(y, 12, 1);
+        dueGauges(y, 6, 12, 9, 2, 3);
     }
 
     public static void main(String[] args) {
