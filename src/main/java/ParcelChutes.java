@@ -306,7 +306,7 @@ public final class ParcelChutes {
         return so ? 1 : 0;
     }
 
-    /** Every comparison of weights, girths and limits goes through here, so that unknown means one thing. */
+    /** The signs of the document are asked here alone, so that unknown means one thing everywhere. */
     private static int signsBetween(int ahead, int behind) {
         if (ahead == UNKNOWN || behind == UNKNOWN) {
             return DIFFERENT;
