@@ -6,8 +6,10 @@ import java.util.Random;
 
 /** Runs of 512 calls, drawn from fixed seeds, against a second, slower reading of the document. */
 public final class ParcelChutesModel {
-    private static final int RUNS = 1500;
+    private static final int RUNS = 2100;
     private static final int CALLS = 512;
+    private static final int PLACES = 13;
+    private static final int READINGS = 8 * (3 * PLACES + 1);
     private static final int SHOWN = 20;
 
     /** A parcel whose unknown numbers are null, so that the model shares no code of the class's kind. */
@@ -353,7 +355,7 @@ public final class ParcelChutesModel {
     private static void compareAll(int run, ParcelChutes x, Model m) {
         for (int k = 0; k < 8; k++) {
             int chute = k;
-            for (int n = 0; n < 13; n++) {
+            for (int n = 0; n < PLACES; n++) {
                 int place = n;
                 compare(run, CALLS, "last chute", () -> x.chute(chute, place), () -> m.chute(chute, place));
                 compare(run, CALLS, "last weight", () -> x.weight(chute, place), () -> m.weight(chute, place));
@@ -375,10 +377,15 @@ public final class ParcelChutesModel {
                 int sort = dice.nextInt(5);
                 compare(run, 0, "sort", () -> x.sort(chute, sort), () -> m.sort(chute, sort));
             }
-            for (int step = 1; step <= CALLS - chutes; step++) {
+            // The readings count as calls: what an object answers behind its 512th is free.
+            boolean readAtEnd = run % 2 == 0;
+            int steps = CALLS - chutes - (readAtEnd ? READINGS : 0);
+            for (int step = 1; step <= steps; step++) {
                 step(run, step, dice, x, m, chutes);
             }
-            compareAll(run, x, m);
+            if (readAtEnd) {
+                compareAll(run, x, m);
+            }
         }
         System.out.println(wrong == 0 ? "the model agrees" : wrong + " answers differ from the model's");
         if (wrong != 0) {

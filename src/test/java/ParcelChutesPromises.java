@@ -1,5 +1,3 @@
-import java.util.ArrayList;
-import java.util.List;
 import java.util.NoSuchElementException;
 
 /** Promise by promise: ordinary inputs, the edges that the document names, and wrong inputs. */
@@ -26,9 +24,11 @@ public final class ParcelChutesPromises {
         }
     }
 
-    /** The call must throw just this class, and leave all that can be read of the object as it was. */
-    private static void dueThrow(ParcelChutes x, String call, Class<?> want, Call made) {
-        List<Long> ahead = readAll(x);
+    /**
+     * The call must throw just this class. That it changes nothing is tested by ParcelChutesSentences on new objects:
+     * a reading of all ahead of and behind each refusal would take one object past its 512th call.
+     */
+    private static void dueThrow(String call, Class<?> want, Call made) {
         Class<?> got = null;
         try {
             made.answer();
@@ -39,27 +39,6 @@ public final class ParcelChutesPromises {
             wrong++;
             System.out.println(promise + ": " + call + " threw " + got + ", due is " + want);
         }
-        if (!readAll(x).equals(ahead)) {
-            wrong++;
-            System.out.println(promise + ": " + call + " threw and changed something");
-        }
-    }
-
-    private static List<Long> readAll(ParcelChutes x) {
-        List<Long> all = new ArrayList<>();
-        for (int k = 0; k < 8; k++) {
-            for (int what = 0; what < 8; what++) {
-                all.add((long) x.chute(k, what));
-            }
-            for (int place = 0; place < x.chute(k, 5); place++) {
-                all.add((long) x.weight(k, place));
-                all.add((long) x.girth(k, place));
-            }
-        }
-        for (int what = 0; what < 8; what++) {
-            all.add((long) x.gauge(what));
-        }
-        return all;
     }
 
     /** What a chute holds, as it lies: weight, girth, weight, girth, .. */
@@ -126,16 +105,16 @@ public final class ParcelChutesPromises {
         due("sort(7, 0)", x.sort(7, 0), 4);
         due("chute(6, 0)", x.chute(6, 0), 0);
         for (int chute : NOT_CHUTES) {
-            dueThrow(x, "sort(no chute, 9)", NO_CHUTE, () -> x.sort(chute, 9));
+            dueThrow("sort(no chute, 9)", NO_CHUTE, () -> x.sort(chute, 9));
         }
         x.sort(0, 1);
         x.send(3, 3);
         for (int sort : new int[] {-1, 5, Integer.MIN_VALUE, Integer.MAX_VALUE}) {
-            dueThrow(x, "sort(0, " + sort + ")", BAD, () -> x.sort(0, sort));
-            dueThrow(x, "sort(1, " + sort + ")", BAD, () -> x.sort(1, sort));
+            dueThrow("sort(0, " + sort + ")", BAD, () -> x.sort(0, sort));
+            dueThrow("sort(1, " + sort + ")", BAD, () -> x.sort(1, sort));
         }
-        dueThrow(x, "sort(0, 0) holding", STATE, () -> x.sort(0, 0));
-        dueThrow(x, "sort(0, 1) holding", STATE, () -> x.sort(0, 1));
+        dueThrow("sort(0, 0) holding", STATE, () -> x.sort(0, 0));
+        dueThrow("sort(0, 1) holding", STATE, () -> x.sort(0, 1));
         x.take(0, 3);
         due("sort(0, 4) emptied", x.sort(0, 4), 1);
     }
@@ -156,19 +135,19 @@ public final class ParcelChutesPromises {
         due("limits(7, 0, 0, 0)", x.limits(7, 0, 0, 0), 0);
         x.limits(3, 4, 6, 5);
         for (int chute : NOT_CHUTES) {
-            dueThrow(x, "limits(no chute, -1, 0, 0)", NO_CHUTE, () -> x.limits(chute, -1, 0, 0));
-            dueThrow(x, "limits(no chute, 9, 8, 0)", NO_CHUTE, () -> x.limits(chute, 9, 8, 0));
+            dueThrow("limits(no chute, -1, 0, 0)", NO_CHUTE, () -> x.limits(chute, -1, 0, 0));
+            dueThrow("limits(no chute, 9, 8, 0)", NO_CHUTE, () -> x.limits(chute, 9, 8, 0));
         }
         for (int number : NOT_WEIGHTS) {
-            dueThrow(x, "limits(3, " + number + ", 1, 1)", BAD, () -> x.limits(3, number, 1, 1));
-            dueThrow(x, "limits(3, 2, " + number + ", 1)", BAD, () -> x.limits(3, 2, number, 1));
+            dueThrow("limits(3, " + number + ", 1, 1)", BAD, () -> x.limits(3, number, 1, 1));
+            dueThrow("limits(3, 2, " + number + ", 1)", BAD, () -> x.limits(3, 2, number, 1));
         }
         for (int number : NOT_GIRTHS) {
-            dueThrow(x, "limits(3, 1, 2, " + number + ")", BAD, () -> x.limits(3, 1, 2, number));
-            dueThrow(x, "limits(3, 9, 8, " + number + ")", BAD, () -> x.limits(3, 9, 8, number));
+            dueThrow("limits(3, 1, 2, " + number + ")", BAD, () -> x.limits(3, 1, 2, number));
+            dueThrow("limits(3, 9, 8, " + number + ")", BAD, () -> x.limits(3, 9, 8, number));
         }
-        dueThrow(x, "limits(3, 9, 8, 7)", STATE, () -> x.limits(3, 9, 8, 7));
-        dueThrow(x, "limits(3, 800000, 1, 0)", STATE, () -> x.limits(3, 800000, 1, 0));
+        dueThrow("limits(3, 9, 8, 7)", STATE, () -> x.limits(3, 9, 8, 7));
+        dueThrow("limits(3, 800000, 1, 0)", STATE, () -> x.limits(3, 800000, 1, 0));
         ParcelChutes y = withLenient(2);
         sendAll(y, 5, 5);
         due("limits(2, 9, 9, 1) while it holds", y.limits(2, 9, 9, 1), 3);
@@ -188,7 +167,7 @@ public final class ParcelChutesPromises {
         due("chute(0, 4) open", x.chute(0, 4), 0);
         due("send to the open one", x.send(1, 1), 0);
         for (int chute : NOT_CHUTES) {
-            dueThrow(x, "shut(no chute, true)", NO_CHUTE, () -> x.shut(chute, true) ? 1 : 0);
+            dueThrow("shut(no chute, true)", NO_CHUTE, () -> x.shut(chute, true) ? 1 : 0);
         }
     }
 
@@ -209,10 +188,10 @@ public final class ParcelChutesPromises {
         due("weight(3, 11)", x.weight(3, 11), 800000);
         due("gauge(4)", x.gauge(4), 16);
         for (int number : NOT_WEIGHTS) {
-            dueThrow(x, "send(" + number + ", 1)", BAD, () -> x.send(number, 1));
+            dueThrow("send(" + number + ", 1)", BAD, () -> x.send(number, 1));
         }
         for (int number : NOT_GIRTHS) {
-            dueThrow(x, "send(1, " + number + ")", BAD, () -> x.send(1, number));
+            dueThrow("send(1, " + number + ")", BAD, () -> x.send(1, number));
         }
         ParcelChutes y = withLenient(0);
         sendAll(y, 5, 1, 0, 2, 3, 3, 5, 4, 0, 5, 9, 6, 3, 7);
@@ -325,10 +304,10 @@ public final class ParcelChutesPromises {
         due("chute(1, 5), none came", x.chute(1, 5), 0);
         due("gauge(4), none came", x.gauge(4), 12);
         for (int number : NOT_WEIGHTS) {
-            dueThrow(x, "fits(" + number + ", 1)", BAD, () -> x.fits(number, 1));
+            dueThrow("fits(" + number + ", 1)", BAD, () -> x.fits(number, 1));
         }
         for (int number : NOT_GIRTHS) {
-            dueThrow(x, "fits(1, " + number + ")", BAD, () -> x.fits(1, number));
+            dueThrow("fits(1, " + number + ")", BAD, () -> x.fits(1, number));
         }
     }
 
@@ -346,18 +325,18 @@ public final class ParcelChutesPromises {
             due("signs of known, unset limit " + what, x.signs(0, what, 1), 32);
             due("signs of unknown, unset limit " + what, x.signs(0, what, 0), 32);
             for (int number : what == 2 ? NOT_GIRTHS : NOT_WEIGHTS) {
-                dueThrow(x, "signs(7, " + what + ", " + number + ")", BAD, () -> x.signs(7, at, number));
+                dueThrow("signs(7, " + what + ", " + number + ")", BAD, () -> x.signs(7, at, number));
             }
             for (int chute : NOT_CHUTES) {
-                dueThrow(x, "signs(no chute, " + what + ", -1)", NO_CHUTE, () -> x.signs(chute, at, -1));
+                dueThrow("signs(no chute, " + what + ", -1)", NO_CHUTE, () -> x.signs(chute, at, -1));
             }
         }
         due("signs(7, 0, 800000)", x.signs(7, 0, 800000), 44);
         due("signs(7, 1, 800000)", x.signs(7, 1, 800000), 44);
         due("signs(7, 2, 16000)", x.signs(7, 2, 16000), 44);
         for (int what : new int[] {-1, 3, Integer.MIN_VALUE, Integer.MAX_VALUE}) {
-            dueThrow(x, "signs(7, " + what + ", 5)", BAD, () -> x.signs(7, what, 5));
-            dueThrow(x, "signs(8, " + what + ", 5)", NO_CHUTE, () -> x.signs(8, what, 5));
+            dueThrow("signs(7, " + what + ", 5)", BAD, () -> x.signs(7, what, 5));
+            dueThrow("signs(8, " + what + ", 5)", NO_CHUTE, () -> x.signs(8, what, 5));
         }
     }
 
@@ -372,15 +351,15 @@ public final class ParcelChutesPromises {
             int at = what;
             due("chute(7, " + what + ")", x.chute(7, what), want[what]);
             for (int chute : NOT_CHUTES) {
-                dueThrow(x, "chute(no chute, " + what + ")", NO_CHUTE, () -> x.chute(chute, at));
+                dueThrow("chute(no chute, " + what + ")", NO_CHUTE, () -> x.chute(chute, at));
             }
         }
         x.take(7, 0);
         due("chute(7, 6) one less", x.chute(7, 6), 1);
         due("chute(7, 7) one less", x.chute(7, 7), 2);
         for (int what : new int[] {-1, 8, Integer.MIN_VALUE, Integer.MAX_VALUE}) {
-            dueThrow(x, "chute(7, " + what + ")", BAD, () -> x.chute(7, what));
-            dueThrow(x, "chute(8, " + what + ")", NO_CHUTE, () -> x.chute(8, what));
+            dueThrow("chute(7, " + what + ")", BAD, () -> x.chute(7, what));
+            dueThrow("chute(8, " + what + ")", NO_CHUTE, () -> x.chute(8, what));
         }
     }
 
@@ -390,23 +369,23 @@ public final class ParcelChutesPromises {
         sendAll(x, 800000, 16000, 1, 0, 0, 1, 0, 0);
         dueLying(x, 7, 1, 0, 800000, 16000, 0, 1, 0, 0);
         for (int place : new int[] {-1, 4, 11, 12, Integer.MIN_VALUE, Integer.MAX_VALUE}) {
-            dueThrow(x, "weight(7, " + place + ")", NONE, () -> x.weight(7, place));
-            dueThrow(x, "girth(7, " + place + ")", NONE, () -> x.girth(7, place));
-            dueThrow(x, "weight(8, " + place + ")", NO_CHUTE, () -> x.weight(8, place));
-            dueThrow(x, "girth(8, " + place + ")", NO_CHUTE, () -> x.girth(8, place));
+            dueThrow("weight(7, " + place + ")", NONE, () -> x.weight(7, place));
+            dueThrow("girth(7, " + place + ")", NONE, () -> x.girth(7, place));
+            dueThrow("weight(8, " + place + ")", NO_CHUTE, () -> x.weight(8, place));
+            dueThrow("girth(8, " + place + ")", NO_CHUTE, () -> x.girth(8, place));
         }
-        dueThrow(x, "weight(0, 0)", NONE, () -> x.weight(0, 0));
-        dueThrow(x, "girth(0, 0)", NONE, () -> x.girth(0, 0));
+        dueThrow("weight(0, 0)", NONE, () -> x.weight(0, 0));
+        dueThrow("girth(0, 0)", NONE, () -> x.girth(0, 0));
         for (int chute : NOT_CHUTES) {
-            dueThrow(x, "weight(no chute, 0)", NO_CHUTE, () -> x.weight(chute, 0));
-            dueThrow(x, "girth(no chute, 0)", NO_CHUTE, () -> x.girth(chute, 0));
+            dueThrow("weight(no chute, 0)", NO_CHUTE, () -> x.weight(chute, 0));
+            dueThrow("girth(no chute, 0)", NO_CHUTE, () -> x.girth(chute, 0));
         }
         while (x.chute(7, 5) < 12) {
             x.send(2, 2);
         }
         due("weight(7, 11) full", x.weight(7, 11), 0);
-        dueThrow(x, "weight(7, 12) full", NONE, () -> x.weight(7, 12));
-        dueThrow(x, "girth(7, 12) full", NONE, () -> x.girth(7, 12));
+        dueThrow("weight(7, 12) full", NONE, () -> x.weight(7, 12));
+        dueThrow("girth(7, 12) full", NONE, () -> x.girth(7, 12));
     }
 
     private static void promise11() {
@@ -427,10 +406,10 @@ public final class ParcelChutesPromises {
         }
         due("below(7, 800000) of a full one", x.below(7, 800000), 9);
         for (int chute : NOT_CHUTES) {
-            dueThrow(x, "below(no chute, -1)", NO_CHUTE, () -> x.below(chute, -1));
+            dueThrow("below(no chute, -1)", NO_CHUTE, () -> x.below(chute, -1));
         }
         for (int number : NOT_WEIGHTS) {
-            dueThrow(x, "below(7, " + number + ")", BAD, () -> x.below(7, number));
+            dueThrow("below(7, " + number + ")", BAD, () -> x.below(7, number));
         }
     }
 
@@ -443,17 +422,17 @@ public final class ParcelChutesPromises {
         due("take(7, 5) again", x.take(7, 5), 4);
         due("take(7, 0)", x.take(7, 0), 2);
         due("take(7, 0) again", x.take(7, 0), 0);
-        dueThrow(x, "take(7, 0) once more", NONE, () -> x.take(7, 0));
-        dueThrow(x, "take(7, 5) once more", NONE, () -> x.take(7, 5));
-        dueThrow(x, "take(0, 0) of none", NONE, () -> x.take(0, 0));
+        dueThrow("take(7, 0) once more", NONE, () -> x.take(7, 0));
+        dueThrow("take(7, 5) once more", NONE, () -> x.take(7, 5));
+        dueThrow("take(0, 0) of none", NONE, () -> x.take(0, 0));
         dueLying(x, 7, 3, 3, 9, 6);
         dueAside(x, 0, 0, 0);
         for (int chute : NOT_CHUTES) {
-            dueThrow(x, "take(no chute, -1)", NO_CHUTE, () -> x.take(chute, -1));
+            dueThrow("take(no chute, -1)", NO_CHUTE, () -> x.take(chute, -1));
         }
         for (int number : NOT_WEIGHTS) {
-            dueThrow(x, "take(7, " + number + ")", BAD, () -> x.take(7, number));
-            dueThrow(x, "take(0, " + number + ") of none", BAD, () -> x.take(0, number));
+            dueThrow("take(7, " + number + ")", BAD, () -> x.take(7, number));
+            dueThrow("take(0, " + number + ") of none", BAD, () -> x.take(0, number));
         }
         x.shut(7, true);
         due("take(7, 9) of a shut one", x.take(7, 9), 6);
@@ -464,8 +443,8 @@ public final class ParcelChutesPromises {
         while (x.chute(7, 5) < 12) {
             x.send(2, 6);
         }
-        dueThrow(x, "take(7, 3) of a full one", NONE, () -> x.take(7, 3));
-        dueThrow(x, "take(7, 0) of a full one", NONE, () -> x.take(7, 0));
+        dueThrow("take(7, 3) of a full one", NONE, () -> x.take(7, 3));
+        dueThrow("take(7, 0) of a full one", NONE, () -> x.take(7, 0));
         due("take(7, 1) of a full one", x.take(7, 1), 5);
         due("chute(7, 5)", x.chute(7, 5), 11);
     }
@@ -486,13 +465,13 @@ public final class ParcelChutesPromises {
         dueAside(x, 0, 0, 0);
         due("gauge(4)", x.gauge(4), 9);
         for (int chute : NOT_CHUTES) {
-            dueThrow(x, "pour(no chute, 1)", NO_CHUTE, () -> x.pour(chute, 1));
-            dueThrow(x, "pour(1, no chute)", NO_CHUTE, () -> x.pour(1, chute));
-            dueThrow(x, "pour(no chute, itself)", NO_CHUTE, () -> x.pour(chute, chute));
+            dueThrow("pour(no chute, 1)", NO_CHUTE, () -> x.pour(chute, 1));
+            dueThrow("pour(1, no chute)", NO_CHUTE, () -> x.pour(1, chute));
+            dueThrow("pour(no chute, itself)", NO_CHUTE, () -> x.pour(chute, chute));
         }
         for (int k = 0; k < 8; k++) {
             int chute = k;
-            dueThrow(x, "pour(" + k + ", " + k + ")", BAD, () -> x.pour(chute, chute));
+            dueThrow("pour(" + k + ", " + k + ")", BAD, () -> x.pour(chute, chute));
         }
         pourUntilFull();
     }
@@ -535,7 +514,7 @@ public final class ParcelChutesPromises {
         dueLying(x, 7, 0, 2);
         due("gauge(4)", x.gauge(4), 7);
         for (int chute : NOT_CHUTES) {
-            dueThrow(x, "sweep(no chute)", NO_CHUTE, () -> x.sweep(chute));
+            dueThrow("sweep(no chute)", NO_CHUTE, () -> x.sweep(chute));
         }
         ParcelChutes y = withLenient(0);
         for (int k = 1; k <= 12; k++) {
@@ -569,8 +548,8 @@ public final class ParcelChutesPromises {
         sendAll(x, 6, 1);
         due("heavier(0, 7), <", x.heavier(0, 7), -1);
         for (int chute : NOT_CHUTES) {
-            dueThrow(x, "heavier(no chute, 0)", NO_CHUTE, () -> x.heavier(chute, 0));
-            dueThrow(x, "heavier(0, no chute)", NO_CHUTE, () -> x.heavier(0, chute));
+            dueThrow("heavier(no chute, 0)", NO_CHUTE, () -> x.heavier(chute, 0));
+            dueThrow("heavier(0, no chute)", NO_CHUTE, () -> x.heavier(0, chute));
         }
     }
 
@@ -597,8 +576,8 @@ public final class ParcelChutesPromises {
         sendAll(x, 0, 6);
         due("alike(7, 7) up to an unknown weight", x.alike(7, 7), 4);
         for (int chute : NOT_CHUTES) {
-            dueThrow(x, "alike(no chute, 0)", NO_CHUTE, () -> x.alike(chute, 0));
-            dueThrow(x, "alike(0, no chute)", NO_CHUTE, () -> x.alike(0, chute));
+            dueThrow("alike(no chute, 0)", NO_CHUTE, () -> x.alike(chute, 0));
+            dueThrow("alike(0, no chute)", NO_CHUTE, () -> x.alike(0, chute));
         }
         ParcelChutes y = withLenient(1);
         for (int k = 0; k < 12; k++) {
@@ -649,9 +628,9 @@ public final class ParcelChutesPromises {
         dueGauges(x, 1, 800000, 16000, 1, 8);
         dueAside(x, 6, 30, 0);
         for (int what : new int[] {-1, 8, Integer.MIN_VALUE, Integer.MAX_VALUE}) {
-            dueThrow(x, "gauge(" + what + ")", BAD, () -> x.gauge(what));
+            dueThrow("gauge(" + what + ")", BAD, () -> x.gauge(what));
         }
-        dueThrow(x, "send(-1, 5)", BAD, () -> x.send(-1, 5));
+        dueThrow("send(-1, 5)", BAD, () -> x.send(-1, 5));
         x.send(1, 1);
         dueGauges(x, 1, 800000, 16000, 2, 9);
         ParcelChutes y = new ParcelChutes();

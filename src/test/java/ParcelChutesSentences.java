@@ -1,3 +1,6 @@
+import java.io.IOException;
+import java.nio.file.Files;
+import java.nio.file.Path;
 import java.util.ArrayList;
 import java.util.HashSet;
 import java.util.List;
@@ -23,6 +26,7 @@ public final class ParcelChutesSentences {
     // The streak to come tells which weight came last, which no call reads.
     private static final int[] NEXT_WEIGHTS = {0, 1, 4, 5, 12, 22, 23, 24, 25, 26, 41, 799999, 800000};
 
+    private static final String[] SECTIONS = sections();
     private static final Set<String> TESTED = new HashSet<>();
 
     private static int wrong = 0;
@@ -38,7 +42,28 @@ public final class ParcelChutesSentences {
 
     private static void sentence(String where, String words) {
         sentence = where + ", '" + words + "'";
-        TESTED.add(sentence);
+        if (TESTED.add(sentence) && !section(where).contains(words)) {
+            wrong("the document does not say this there");
+        }
+    }
+
+    /** A section of the document, by the first words of its heading. */
+    private static String section(String heading) {
+        for (String section : SECTIONS) {
+            if (section.startsWith(heading + "\n") || section.startsWith(heading + ":")) {
+                return section;
+            }
+        }
+        return "";
+    }
+
+    private static String[] sections() {
+        try {
+            return Files.readString(Path.of("../shared/DOC.md")).split("\n## ");
+        } catch (IOException e) {
+            System.out.println("the document can't be read: " + e);
+            return new String[0];
+        }
     }
 
     private static void wrong(String what) {
